@@ -714,9 +714,7 @@ public final class GameClock {
         boolean readText() {
             clear();
             readToken();
-            if (isWord("period")) {
-                readPeriod();
-            } else {
+            if (!isWord("period")) {
                 fail(CANNOT_STAND);
             }
             for (int i = 0; i < INPUT_LIMIT && code == 0 && kind != END; i++) {

@@ -300,6 +300,7 @@ public final class AskTest {
         Check.same("18 without moves", new GameClock().meanThink(1), 0.0);
         clock = Check.begun("period moves 0 time 900;");
         Check.moveAfter(clock, 1);
+        Check.same("18 of one move", clock.meanThink(0), 1.0);
         Check.same("18 the other side without", clock.meanThink(1), 0.0);
         clock.move();
         Check.moveAfter(clock, 1);
@@ -315,6 +316,9 @@ public final class AskTest {
         GameClock clock = Check.begun(TEXT);
         Check.same("19 at the time 0", clock.share(0), 0.0f);
         Check.same("19 at the time 0", clock.share(1), 0.0f);
+        clock.tick(1);
+        Check.same("19 at the time 1", clock.share(0), 1.0f);
+        Check.same("19 at the time 1", clock.share(1), 0.0f);
         clock = played();
         Check.same("19 white", clock.share(0), 30.0f / 32.0f);
         Check.same("19 black", clock.share(1), 2.0f / 32.0f);

@@ -199,6 +199,14 @@ public final class ChangeTest {
         clock = Check.begun("period moves 0 time 5 delay 1; extra 2 time 4;");
         Check.same("36 both at once", clock.tick(12), 2);
         Check.same("36 lost in all", clock.side(0, 7), 11);
+        clock = Check.begun("period moves 0 time 5; extra 9 time 4;");
+        Check.same("36 nine at once", clock.tick(40), 1);
+        Check.same("36 none is left", clock.side(0, 4), 0);
+        Check.same("36 and then the flag", clock.tick(9), 0);
+        clock = Check.begun("period moves 0 time 5; extra 9 time 4;");
+        clock.tick(9999);
+        Check.same("36 all at once", clock.property(7), 5 + 9 * 4);
+        Check.same("36 all at once", clock.property(0), 4);
     }
 
     private static void promise36Claims() {
@@ -258,6 +266,14 @@ public final class ChangeTest {
         clock.tick(7);
         Check.same("37 by the next period", clock.move(), 1);
         Check.same("37 no period behind moves 0", clock.side(0, 3), 1);
+        clock = Check.begun("period moves 1 time 5; period moves 1 time 7; period moves 1 time 9; period moves 0 time 1;");
+        int[] left = {5, 12, 21, 22, 22};
+        for (int i = 0; i < left.length; i++) {
+            Check.same("37 each period in its turn", clock.side(0, 2), Math.min(i, 3));
+            Check.same("37 the time of each", clock.side(0, 0), left[i]);
+            clock.move();
+            clock.move();
+        }
     }
 
     private static void promise37Extra() {
@@ -595,6 +611,7 @@ public final class ChangeTest {
         clock.restore(0);
         Check.same("49 in place of what was there", clock.keep(1), 12);
         Check.same("50 that", clock.restore(1), 12);
+        logsInSlots();
         Check.refuses("49 slot -1", IOOBE, ChangeTest::running, c -> c.keep(-1));
         Check.refuses("49 slot 2", IOOBE, ChangeTest::running, c -> c.keep(2));
         Check.refuses("50 slot -1", IOOBE, ChangeTest::running, c -> c.restore(-1));
@@ -606,6 +623,32 @@ public final class ChangeTest {
             return made;
         };
         Check.refuses("50 nothing kept in the other", ISE, kept, c -> c.restore(1));
+    }
+
+    private static void logsInSlots() {
+        GameClock clock = Check.begun("period moves 1 time 50 bonus 1; period moves 2 time 40;");
+        for (int i = 1; i <= 4; i++) {
+            Check.moveAfter(clock, i);
+        }
+        clock.keep(0);
+        clock.undo();
+        clock.undo();
+        Check.moveAfter(clock, 9);
+        Check.moveAfter(clock, 9);
+        Check.same("50 the time", clock.restore(0), 10);
+        for (int index = 0; index < 4; index++) {
+            Check.same("50 the log's think " + index, clock.logged(index, 1), 4 - index);
+            Check.same("50 the log's side " + index, clock.logged(index, 0), 1 - index % 2);
+        }
+        Check.same("50 finished", clock.finished(0), 1);
+        Check.load(clock, FIVE);
+        clock.start();
+        clock.move();
+        clock.restore(0);
+        Check.same("50 finished", clock.finished(0) + clock.finished(1), 2);
+        Check.same("50 spent", clock.spent(1, 0), 2);
+        Check.same("50 spent", clock.spent(1, 1), 4);
+        Check.same("50 the log again", clock.logged(3, 1), 1);
     }
 
     private static void promise50RestoreIsUndone() {
@@ -711,10 +754,13 @@ public final class ChangeTest {
         undone("tick that changes nothing", ChangeTest::over, c -> c.tick(9));
         undone("tick that ends the game", ChangeTest::running, c -> c.tick(999));
         undone("move", ChangeTest::running, c -> c.move());
+        undone("move that ends a period", ChangeTest::secondMove, c -> c.move());
         undone("pause", ChangeTest::running, c -> c.pause());
         undone("proceed", ChangeTest::paused, c -> c.proceed());
+        undone("proceed at once", ChangeTest::pausedAtOnce, c -> c.proceed());
         undone("seal", ChangeTest::nearlySealedAndOne, c -> c.seal());
         undone("open", ChangeTest::adjourned, c -> c.open());
+        undone("open at once", ChangeTest::adjournedAtOnce, c -> c.open());
         undone("claim", () -> fallen(true, false), c -> c.claim(1));
         undone("resign", ChangeTest::running, c -> c.resign(0));
         undone("give", ChangeTest::running, c -> c.give(0, 9));
@@ -726,6 +772,7 @@ public final class ChangeTest {
         undone("setPeriod", ChangeTest::running, c -> c.setPeriod(1, 4, 9));
         undone("setPeriod as it is", ChangeTest::running, c -> c.setPeriod(0, 2, 5));
         undone("swap", ChangeTest::paused, c -> c.swap());
+        undone("swap at once", ChangeTest::pausedAtOnce, c -> c.swap());
         undone("restore", () -> {
             GameClock clock = running();
             clock.keep(1);
@@ -737,6 +784,26 @@ public final class ChangeTest {
     private static GameClock nearlySealedAndOne() {
         GameClock clock = Check.begun(TEXT);
         clock.tick(30);
+        return clock;
+    }
+
+    private static GameClock pausedAtOnce() {
+        GameClock clock = Check.begun(TEXT);
+        clock.pause();
+        return clock;
+    }
+
+    private static GameClock adjournedAtOnce() {
+        GameClock clock = nearlySealedAndOne();
+        clock.seal();
+        return clock;
+    }
+
+    private static GameClock secondMove() {
+        GameClock clock = Check.begun(TEXT);
+        clock.move();
+        clock.move();
+        clock.tick(9);
         return clock;
     }
 

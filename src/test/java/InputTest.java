@@ -208,6 +208,20 @@ public final class InputTest {
         Check.same("4 the output buffer stays", Check.output(clock, 5), output);
         Check.same("4 the slot stays", clock.restore(1), 15);
         Check.same("4 its moves", clock.property(8), 2);
+        clock = Check.begun("period moves 9 time 5; claims;");
+        Check.moveAfter(clock, 1);
+        Check.moveAfter(clock, 2);
+        Check.moveAfter(clock, 7);
+        clock.tick(8);
+        clock.claim(0);
+        Check.load(clock, ONE + "session 5;");
+        for (int what = 0; what < properties.length; what++) {
+            Check.same("4 property behind the end " + what, clock.property(what), properties[what]);
+        }
+        for (int what = 0; what < side.length; what++) {
+            Check.same("4 white behind the end " + what, clock.side(0, what), side[what]);
+            Check.same("4 black behind the end " + what, clock.side(1, what), side[what]);
+        }
     }
 
     private static void promise4LoadIsUndone() {
@@ -305,6 +319,7 @@ public final class InputTest {
         errsBehind("extra 0 time 5;", 2, 6);
         errsBehind("extra 10 time 5;", 2, 6);
         reads(FIRST + "extra 9 time 9999;");
+        reads(FIRST + "extra 1 time 1;");
         errsBehind("extra 1 time 0;", 2, 13);
         errsBehind("extra 1 time 10000;", 2, 13);
         errsBehind("extra time 5;", 1, 6);
@@ -317,6 +332,7 @@ public final class InputTest {
         errsBehind("session 0;", 2, 8);
         errsBehind("session 100000;", 2, 8);
         reads(FIRST + "session 99999;");
+        reads(FIRST + "session 1;");
         errsBehind("session;", 1, 7);
         errsBehind("session 5", 1, 9);
         errsBehind("session 5;session", 3, 10);
@@ -364,6 +380,10 @@ public final class InputTest {
         errsBehind("  \n foo", 1, 4);
         errsBehind("claim;", 1, 0);
         errsBehind("claimss;", 1, 0);
+        errsBehind("claimsz;", 1, 0);
+        errsBehind("claimsa;", 1, 0);
+        errsBehind("session 5Z;", 1, 9);
+        errsBehind("session 10;session 09;", 3, 11);
         errsBehind("extra 1 time 5 ;session 5:", 1, 25);
     }
 

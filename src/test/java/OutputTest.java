@@ -184,7 +184,8 @@ public final class OutputTest {
             replaced.writeLog();
             return replaced;
         }, c -> c.outputByte(0));
-        game.writePeriods();
+        game.writeClock();
+        Check.same("56 in place of the clock", game.writePeriods(), 6);
         game.start();
         game.tick(9);
         game.undo();
