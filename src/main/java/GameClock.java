@@ -1053,7 +1053,7 @@ public final class GameClock {
             return left / 10 + (left % 10 > 0 ? 1 : 0);
         }
 
-        /** Many ticks at once: the delay takes the first ones, then what is left, then one extra period behind the other. */
+        /** Many ticks at once: the delay takes the first ones, then what is left, then one extra after the other. */
         void run(Rules rules, int ticks) {
             int costly = Math.max(0, ticks - freeTicks(rules));
             think += ticks;

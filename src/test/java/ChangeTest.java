@@ -266,7 +266,8 @@ public final class ChangeTest {
         clock.tick(7);
         Check.same("37 by the next period", clock.move(), 1);
         Check.same("37 no period behind moves 0", clock.side(0, 3), 1);
-        clock = Check.begun("period moves 1 time 5; period moves 1 time 7; period moves 1 time 9; period moves 0 time 1;");
+        clock = Check.begun("period moves 1 time 5; period moves 1 time 7; period moves 1 time 9;"
+                + "period moves 0 time 1;");
         int[] left = {5, 12, 21, 22, 22};
         for (int i = 0; i < left.length; i++) {
             Check.same("37 each period in its turn", clock.side(0, 2), Math.min(i, 3));

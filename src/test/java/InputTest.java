@@ -361,7 +361,7 @@ public final class InputTest {
         GameClock clock = Check.loaded("\nperiod moves2time100bonus5delay0006back7;claims;\n \n");
         Check.same("4 a word ends at a digit", clock.period(0, 1), 100);
         Check.same("4 leading zeros", clock.period(0, 3), 6);
-        clock = Check.loaded("period moves 000000000000000000000000000000007 time 00000000000000000000000000000000100;");
+        clock = Check.loaded("period moves 0000000000000000000000000000007 time 000000000000000000000000100;");
         Check.same("4 many zeros", clock.period(0, 0), 7);
         Check.same("4 many zeros", clock.period(0, 1), 100);
         errs("period moves 0 time 4294967301;", 2, 20);

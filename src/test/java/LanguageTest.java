@@ -85,7 +85,8 @@ public final class LanguageTest {
     }
 
     private static void sizes(List<String> lines) throws IOException {
-        long classes = lines.stream().filter(line -> code(line).matches(".*\\b(class|enum|record|interface) .*")).count();
+        String head = ".*\\b(class|enum|record|interface) .*";
+        long classes = lines.stream().filter(line -> code(line).matches(head)).count();
         Check.same("rule 11: classes", classes <= 12, true);
         for (Class<?> inside : GameClock.class.getDeclaredClasses()) {
             long fields = List.of(inside.getDeclaredFields()).stream()

@@ -63,7 +63,7 @@ public final class ModelTest {
                 }
                 continue;
             }
-            if (!same(nextName(clock.property(0)), clock, model, story)) {
+            if (!same(nextName(model.property(0)), clock, model, story)) {
                 return false;
             }
         }
@@ -106,7 +106,7 @@ public final class ModelTest {
         while (!clockMethods.get(i).getName().equals(name)) {
             i++;
         }
-        Object[] values = values(clockMethods.get(i), clock);
+        Object[] values = values(clockMethods.get(i), model);
         String got = answer(clockMethods.get(i), clock, values);
         String due = answer(modelMethods.get(i), model, values);
         story.append(name).append(Arrays.toString(values)).append(" -> ").append(got).append('\n');
@@ -122,28 +122,28 @@ public final class ModelTest {
         }
     }
 
-    private Object[] values(Method method, GameClock clock) {
+    private Object[] values(Method method, Model model) {
         Class<?>[] kinds = method.getParameterTypes();
         Object[] values = new Object[kinds.length];
         for (int i = 0; i < kinds.length; i++) {
-            values[i] = kinds[i] == boolean.class ? (Object) random.nextBoolean() : value(method.getName(), i, clock);
+            values[i] = kinds[i] == boolean.class ? (Object) random.nextBoolean() : value(method.getName(), i, model);
         }
         return values;
     }
 
-    private Integer value(String name, int i, GameClock clock) {
+    private Integer value(String name, int i, Model model) {
         switch (name) {
             case "property":
             case "side":
                 return i == 0 && name.equals("side") ? small(2) : small(12);
             case "period":
-                return small(i == 0 ? clock.property(2) : 5);
+                return small(i == 0 ? model.property(2) : 5);
             case "setPeriod":
-                return i == 0 ? small(clock.property(2)) : i == 1 ? small(5) : ticks(999);
+                return i == 0 ? small(model.property(2)) : i == 1 ? small(5) : ticks(999);
             case "logged":
                 return i == 0 ? small(random.nextInt(10) == 0 ? 41 : 8) : small(6);
             case "spent":
-                return small(i == 0 ? 2 : clock.property(2));
+                return small(i == 0 ? 2 : model.property(2));
             case "give":
                 return i == 0 ? small(2) : Integer.valueOf(random.nextBoolean() ? ticks(9999) : -ticks(9999));
             case "ends":
