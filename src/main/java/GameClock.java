@@ -1327,8 +1327,9 @@ public final class GameClock {
 
     /** Sides to try things on, so that methods that ask what would be leave the clock alone. */
     private static final class Trial {
-        // a move takes a tick at least, but the first one none if its think is long enough already
-        static final int MOST_MOVES_IN_TICKS = MOST_TICKS + 1;
+        // a move takes a tick at least, but each side's first one none if its think is long enough already:
+        // behind swap() both sides can have a think
+        static final int MOST_MOVES_IN_TICKS = MOST_TICKS + SIDES;
         static final int MOST_MORE = 99999;
         // enough halvings for each search here
         static final int HALVINGS = 20;

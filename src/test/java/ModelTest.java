@@ -9,7 +9,7 @@ import java.util.Random;
 /** Long runs of calls by a fixed seed, on GameClock and on the Model: each answer has to be the same. */
 public final class ModelTest {
     private static final int RUNS = 2500;
-    private static final int CALLS = 470;
+    private static final int CALLS = 460;
 
     private final Random random = new Random(20261119);
     /** Whether this run is one long game with much time, and not one of falling flags. */
@@ -63,11 +63,38 @@ public final class ModelTest {
                 }
                 continue;
             }
+            if (model.property(0) == 1 && random.nextInt(80) == 0) {
+                calls += 21;
+                if (!bothThink(clock, model, story)) {
+                    return false;
+                }
+                continue;
+            }
             if (!same(nextName(model.property(0)), clock, model, story)) {
                 return false;
             }
         }
         return true;
+    }
+
+    /** Both sides get a think, which is seldom by itself, and are asked what would be at paces about it. */
+    private boolean bothThink(GameClock clock, Model model, StringBuilder story)
+            throws ReflectiveOperationException {
+        int think = 1 + random.nextInt(12);
+        int other = random.nextBoolean() ? think : 1 + random.nextInt(12);
+        boolean same = same("tick", clock, model, story, think) && same("pause", clock, model, story)
+                && same("swap", clock, model, story) && same("proceed", clock, model, story)
+                && same("tick", clock, model, story, other);
+        for (int i = 0; i < 4 && same; i++) {
+            int white = i == 0 ? 1 : 1 + random.nextInt(14);
+            int black = i == 0 ? 1 : 1 + random.nextInt(14);
+            int ticks = i % 2 == 0 ? 9999 - random.nextInt(2) : 1 + random.nextInt(50);
+            same = same("ends", clock, model, story, white, black)
+                    && same("endsAfter", clock, model, story, white, black)
+                    && same("movesIn", clock, model, story, white, black, ticks)
+                    && same("aheadAfter", clock, model, story, white, black, random.nextInt(i % 2 == 0 ? 401 : 6));
+        }
+        return same;
     }
 
     /** Moves and ticks most of all, and a way out of each state, so that games go on. */
@@ -100,13 +127,14 @@ public final class ModelTest {
         return name;
     }
 
-    private boolean same(String name, GameClock clock, Model model, StringBuilder story)
+    /** Compares a call with these values, or with values of its own choice if there are none. */
+    private boolean same(String name, GameClock clock, Model model, StringBuilder story, Object... told)
             throws ReflectiveOperationException {
         int i = 0;
         while (!clockMethods.get(i).getName().equals(name)) {
             i++;
         }
-        Object[] values = values(clockMethods.get(i), model);
+        Object[] values = told.length > 0 ? told : values(clockMethods.get(i), model);
         String got = answer(clockMethods.get(i), clock, values);
         String due = answer(modelMethods.get(i), model, values);
         story.append(name).append(Arrays.toString(values)).append(" -> ").append(got).append('\n');

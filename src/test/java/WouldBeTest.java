@@ -26,6 +26,8 @@ public final class WouldBeTest {
         promise32PaceFor();
         promise33Needs();
         promise34AheadAfter();
+        bothThinkAndMoveAtOnce();
+        bothThinkUpToTheLimits();
         paces();
         asksLeaveTheClockAlone();
         Check.end("WouldBeTest");
@@ -407,6 +409,69 @@ public final class WouldBeTest {
         Check.refuses("34 moves -1", IAE, WouldBeTest::game, c -> c.aheadAfter(1, 1, -1));
         Check.refuses("34 moves 401", IAE, WouldBeTest::game, c -> c.aheadAfter(1, 1, 401));
         Check.refuses("34 moves 401, not begun", IAE, GameClock::new, c -> c.aheadAfter(1, 1, 401));
+    }
+
+    /** White ticks, the sides are swapped in a pause, and white ticks again: both have a think then. */
+    private static GameClock bothThink(String text, int blackThink, int whiteThink) {
+        GameClock clock = Check.begun(text);
+        clock.tick(blackThink);
+        clock.pause();
+        clock.swap();
+        clock.proceed();
+        clock.tick(whiteThink);
+        Check.same("48 white's think", clock.side(0, 6), whiteThink);
+        Check.same("48 black's think", clock.side(1, 6), blackThink);
+        return clock;
+    }
+
+    private static void bothThinkAndMoveAtOnce() {
+        GameClock clock = bothThink("period moves 0 time 100 bonus 9;", 5, 3);
+        Check.same("26 two at once", clock.movesIn(3, 5, 1), 2);
+        Check.same("26 two at once, one tick too few", clock.movesIn(3, 5, 2), 2);
+        Check.same("26 two at once and one more", clock.movesIn(3, 5, 3), 3);
+        Check.same("26 white at once", clock.movesIn(3, 6, 1), 2);
+        Check.same("26 black at once", clock.movesIn(4, 5, 1), 2);
+        Check.same("26 none at once", clock.movesIn(4, 6, 1), 1);
+        Check.same("26 none at once", clock.movesIn(4, 6, 2), 2);
+        // both have 6 left, and 7 behind the move at once
+        clock = bothThink("period moves 1 time 10; period moves 0 time 1;", 4, 4);
+        Check.same("24 white falls", clock.ends(4, 4), 1);
+        Check.same("25 behind two at once and two more", clock.endsAfter(4, 4), 4);
+        Check.same("26 until the flag falls", clock.movesIn(4, 4, 9999), 4);
+        Check.same("24 black falls", clock.ends(3, 4), 0);
+        Check.same("25 behind two at once and three more", clock.endsAfter(3, 4), 5);
+        Check.same("24 black in its first move", clock.ends(4, 10), 0);
+        Check.same("25 black in its first move", clock.endsAfter(4, 10), 1);
+        Check.same("34 now", clock.aheadAfter(4, 4, 0), 0);
+        Check.same("34 one at once", clock.aheadAfter(4, 4, 1), 1);
+        Check.same("34 two at once", clock.aheadAfter(4, 4, 2), 0);
+        Check.same("34 and one more", clock.aheadAfter(4, 4, 3), 3 - 7);
+        Check.same("34 and two more", clock.aheadAfter(4, 4, 4), 0);
+        Check.same("34 then white falls", clock.aheadAfter(4, 4, 5), -3);
+        Check.same("34 then white falls", clock.aheadAfter(4, 4, 400), -3);
+    }
+
+    private static void bothThinkUpToTheLimits() {
+        GameClock clock = bothThink("period moves 0 time 9999 bonus 9;", 1, 1);
+        Check.same("26 two at once and one for each tick", clock.movesIn(1, 1, 9999), 10001);
+        Check.same("26 one tick less", clock.movesIn(1, 1, 9998), 10000);
+        Check.same("26 black's takes a tick", clock.movesIn(1, 2, 9999), 2 + 2 * 3332 + 1);
+        Check.same("34 399 moves", clock.aheadAfter(1, 1, 399), 8);
+        Check.same("34 400 moves", clock.aheadAfter(1, 1, 400), 0);
+        Check.same("25 no flag falls", clock.endsAfter(1, 1), 400);
+        Check.same("24 no flag falls", clock.ends(1, 1), -1);
+        // the first move of each side takes no tick: 199 ticks are left, the 200th move of white uses them up
+        clock = bothThink("period moves 0 time 200;", 1, 1);
+        Check.same("25 the 399th", clock.endsAfter(1, 1), 398);
+        Check.same("24 the 399th", clock.ends(1, 1), 1);
+        clock.give(0, 1);
+        Check.same("25 the 400th", clock.endsAfter(1, 1), 399);
+        Check.same("24 the 400th", clock.ends(1, 1), 0);
+        clock.give(1, 1);
+        Check.same("25 the 401st is too late", clock.endsAfter(1, 1), 400);
+        Check.same("24 the 401st is too late", clock.ends(1, 1), -1);
+        Check.same("26 the 401st falls", clock.movesIn(1, 1, 9999), 400);
+        Check.same("26 two at once, without a flag", clock.movesIn(1, 1, 300), 302);
     }
 
     private static void paces() {
