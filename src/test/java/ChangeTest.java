@@ -815,7 +815,10 @@ public final class ChangeTest {
         Check.same("52 behind " + what, clock.undoCount(), Math.min(6, count + 1));
         Check.same("51 undo of " + what, clock.undo(), Math.min(5, count));
         if (count < 6) {
-            Check.same("51 all behind undo of " + what, Check.everything(clock), Check.everything(maker.get()));
+            Check.same("51 all behind undo of " + what, Check.allBehind(maker, c -> {
+                change.accept(c);
+                c.undo();
+            }), Check.allBehind(maker, c -> { }));
         }
     }
 }

@@ -31,7 +31,14 @@ final class Check {
     static void same(String what, String got, String want) {
         compared++;
         if (!got.equals(want)) {
-            tell(what + " answered\n  " + got + "\ndue is\n  " + want);
+            String[] gotLines = got.split("\n");
+            String[] wantLines = want.split("\n");
+            int line = 0;
+            while (line < gotLines.length - 1 && line < wantLines.length - 1
+                    && gotLines[line].equals(wantLines[line])) {
+                line++;
+            }
+            tell(what + " answered\n  " + gotLines[line] + "\ndue is\n  " + wantLines[line]);
         }
     }
 
@@ -43,23 +50,98 @@ final class Check {
     /** The call throws just this exception, and a clock that was called so tells the same as its twin that was not. */
     static void refuses(String what, Class<?> due, Supplier<GameClock> maker, Consumer<GameClock> call) {
         compared++;
-        GameClock clock = maker.get();
         try {
-            call.accept(clock);
+            call.accept(maker.get());
+            tell(what + " threw nothing, due is " + due.getSimpleName());
+            return;
+        } catch (RuntimeException e) {
+            if (e.getClass() != due) {
+                tell(what + " threw " + e + ", due is " + due.getSimpleName());
+            }
+        }
+        same(what + ": all behind it", allBehind(maker, c -> orThrows(c, call)), allBehind(maker, c -> { }));
+    }
+
+    /** The call changes nothing. */
+    static void leavesAlone(String what, Supplier<GameClock> maker, Consumer<GameClock> call) {
+        same(what + ": all behind it", allBehind(maker, call), allBehind(maker, c -> { }));
+    }
+
+    /** The call throws just this exception; what it may have changed is not looked at. */
+    static void raises(String what, Class<?> due, Runnable call) {
+        compared++;
+        try {
+            call.run();
             tell(what + " threw nothing, due is " + due.getSimpleName());
         } catch (RuntimeException e) {
             if (e.getClass() != due) {
                 tell(what + " threw " + e + ", due is " + due.getSimpleName());
             }
         }
-        same(what + ": all behind it", everything(clock), everything(maker.get()));
     }
 
-    /** The call changes nothing. */
-    static void leavesAlone(String what, Supplier<GameClock> maker, Consumer<GameClock> call) {
+    private static void orThrows(GameClock clock, Consumer<GameClock> call) {
+        try {
+            call.accept(clock);
+        } catch (RuntimeException e) {
+            // what it threw is looked at elsewhere
+        }
+    }
+
+    /**
+     * All that there is behind a call: the game, the log, each game that undo() brings back, the slots and both
+     * buffers. Each part is asked of a clock of its own, as no clock is used for more than 512 calls; so the maker may
+     * use some 100 calls.
+     */
+    static String allBehind(Supplier<GameClock> maker, Consumer<GameClock> call) {
+        StringBuilder all = new StringBuilder();
+        int undos = behind(maker, call).undoCount();
+        for (int back = 0; back <= undos; back++) {
+            GameClock clock = behind(maker, call);
+            for (int i = 0; i < back; i++) {
+                clock.undo();
+            }
+            all.append("behind ").append(back).append(" undo()\n");
+            appendGame(all, clock);
+        }
+        for (int slot = 0; slot < 2; slot++) {
+            GameClock clock = behind(maker, call);
+            try {
+                all.append("slot ").append(clock.restore(slot)).append('\n');
+                appendGame(all, clock);
+            } catch (IllegalStateException e) {
+                all.append("an empty slot\n");
+            }
+        }
+        GameClock read = behind(maker, call);
+        all.append("input of ").append(inputLength(behind(maker, call))).append(" bytes, ").append(read.load());
+        all.append('\n');
+        appendGame(all, read);
+        all.append("output ").append(outputIfAny(behind(maker, call))).append('\n');
+        return all.toString();
+    }
+
+    private static GameClock behind(Supplier<GameClock> maker, Consumer<GameClock> call) {
         GameClock clock = maker.get();
         call.accept(clock);
-        same(what + ": all behind it", everything(clock), everything(maker.get()));
+        return clock;
+    }
+
+    private static int inputLength(GameClock clock) {
+        try {
+            return clock.append(0, 0, 0, 0, 0) - 20;
+        } catch (IllegalStateException e) {
+            // more than 380: found by cutting, from above
+        }
+        for (int length = 400; length > 380; length--) {
+            try {
+                clock.truncate(length);
+                return length;
+            } catch (IllegalArgumentException e) {
+                // shorter than that
+            }
+        }
+        return 380;
     }
 
     static void feed(GameClock clock, String text) {
@@ -113,36 +195,9 @@ final class Check {
         return text.toString();
     }
 
-    /** All that the clock tells, and what undo() and the slots bring back; the clock is used up by it. */
-    static String everything(GameClock clock) {
-        StringBuilder all = new StringBuilder();
-        all.append("error ").append(clock.errorCode()).append(' ').append(clock.errorPosition()).append('\n');
-        all.append("output ").append(outputIfAny(clock)).append('\n');
-        all.append("input ").append(clock.append(0, 0, 0, 0, 0)).append('\n');
-        appendGame(all, clock);
-        for (int slot = 0; slot < 2; slot++) {
-            try {
-                all.append("slot ").append(clock.restore(slot)).append('\n');
-                appendGame(all, clock);
-                clock.undo();
-            } catch (IllegalStateException e) {
-                all.append("no slot\n");
-            }
-        }
-        // trying the slots may have pushed out the oldest entry, but then for the twin as well
-        for (int i = 0; i < 6 && clock.undoCount() > 0; i++) {
-            all.append("undo ").append(clock.undo());
-            for (int what = 0; what < 12; what++) {
-                all.append(' ').append(clock.property(what));
-            }
-            all.append(' ').append(clock.side(0, 0)).append(' ').append(clock.side(1, 0)).append('\n');
-        }
-        return all.toString();
-    }
-
     private static String outputIfAny(GameClock clock) {
         StringBuilder text = new StringBuilder();
-        for (int i = 0; i < 40; i++) {
+        for (int i = 0; i < 256; i++) {
             try {
                 text.append((char) clock.outputByte(i));
             } catch (java.util.NoSuchElementException e) {
@@ -152,35 +207,48 @@ final class Check {
         return text.toString();
     }
 
+    /** Up to some 350 calls. */
     private static void appendGame(StringBuilder all, GameClock clock) {
-        all.append("undo ").append(clock.undoCount()).append(" properties");
+        all.append("error ").append(clock.errorCode()).append(' ').append(clock.errorPosition());
+        all.append(" undo ").append(clock.undoCount()).append(" properties");
         for (int what = 0; what < 12; what++) {
             all.append(' ').append(clock.property(what));
         }
+        int periods = clock.property(2);
         for (int side = 0; side < 2; side++) {
             all.append("\nside");
             for (int what = 0; what < 12; what++) {
                 all.append(' ').append(clock.side(side, what));
             }
-            all.append(' ').append(clock.finished(side)).append(' ').append(clock.spent(side, 0));
+            all.append(' ').append(clock.finished(side)).append(" spent");
+            for (int period = 0; period < periods; period++) {
+                all.append(' ').append(clock.spent(side, period));
+            }
         }
-        for (int period = 0; period < clock.property(2); period++) {
+        for (int period = 0; period < periods; period++) {
             all.append("\nperiod");
             for (int what = 0; what < 5; what++) {
                 all.append(' ').append(clock.period(period, what));
             }
         }
-        all.append("\nlog ");
-        try {
-            for (int index = 0; index < 2; index++) {
-                for (int what = 0; what < 6; what++) {
-                    all.append(' ').append(clock.logged(index, what));
-                }
+        appendLog(all, clock);
+    }
+
+    private static void appendLog(StringBuilder all, GameClock clock) {
+        all.append("\nlog");
+        int moves = Math.min(40, clock.property(8));
+        for (int index = 0; index < moves; index++) {
+            for (int what = 0; what < 6; what++) {
+                all.append(' ').append(clock.logged(index, what));
             }
+        }
+        try {
+            clock.logged(moves, 0);
+            all.append(" and one more");
         } catch (IndexOutOfBoundsException e) {
             all.append('.');
         }
-        all.append(' ').append(clock.gained(0)).append(' ').append(clock.gained(1)).append('\n');
+        all.append('\n');
     }
 
     static void end(String test) {

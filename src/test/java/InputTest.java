@@ -179,14 +179,13 @@ public final class InputTest {
 
     private static void promise4LoadBad() {
         GameClock clock = used();
-        GameClock twin = used();
         Check.feed(clock, "period moves 0 time 7; extra 1 time 2; session x");
         Check.same("4 error", clock.load(), GameClock.PARSE_ERROR);
         Check.same("4 the buffer is empty", clock.append(0, 0, 0, 0, 0), 20);
-        clock.truncate(0);
-        String all = Check.everything(clock).substring("error 1 47\n".length());
-        String due = Check.everything(twin).substring("error 0 -1\n".length());
-        Check.same("4 the game as it was", all, due);
+        String all = Check.allBehind(InputTest::used,
+                c -> Check.load(c, "period moves 0 time 7; extra 1 time 2; session x"));
+        String due = Check.allBehind(InputTest::used, c -> { });
+        Check.same("4 the game as it was", all.replace("error 1 47 ", "error 0 -1 "), due);
     }
 
     private static void promise4LoadClears() {

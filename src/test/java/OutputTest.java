@@ -193,15 +193,18 @@ public final class OutputTest {
         Check.same("56 stays until the next one", Check.output(game, 6), "r/3000");
     }
 
-    private static void writesLeaveTheGameAlone() {
+    private static GameClock moved() {
         GameClock game = Check.begun("period moves 3 time 50; session 3;");
-        GameClock twin = Check.begun("period moves 3 time 50; session 3;");
         Check.moveAfter(game, 7);
-        Check.moveAfter(twin, 7);
-        game.writeClock();
-        game.writePeriods();
-        game.writeLog();
-        twin.writeLog();
-        Check.same("53 to 55 change the output alone", Check.everything(game), Check.everything(twin));
+        return game;
+    }
+
+    private static void writesLeaveTheGameAlone() {
+        String due = Check.allBehind(OutputTest::moved, c -> c.writeLog());
+        Check.same("53 to 55 change the output alone", Check.allBehind(OutputTest::moved, c -> {
+            c.writeClock();
+            c.writePeriods();
+            c.writeLog();
+        }), due);
     }
 }
