@@ -1,8 +1,8 @@
 import java.util.function.Supplier;
 
 /**
- * Promises 7 to 34, what can be asked and what would be: a test for each sentence that names an edge; the sentence stands
- * above it.
+ * Promises 7 to 34, what can be asked and what would be: a test for each sentence that names an edge; the sentence
+ * stands above it.
  */
 public final class AskEdgeTest {
     private static final String FIVE = "period moves 0 time 5;";
@@ -18,6 +18,7 @@ public final class AskEdgeTest {
         ticksToTheFlag();
         delayThatIsLeft();
         shownAndWrittenRoundedUp();
+        aheadOrBehind();
         paceFrom1To9999();
         paceThatIsNone();
         paceAnew();
@@ -133,7 +134,8 @@ public final class AskEdgeTest {
     // how many ticks its clock would have to run on until its flag falls, in this move; 0 if it fell already
     private static void ticksToTheFlag() {
         String[] texts = {FIVE, "period moves 0 time 1;", "period moves 0 time 5 delay 3;", FIVE + "extra 9 time 7;",
-            "period moves 1 time 5 delay 4;period moves 0 time 1;extra 9 time 7;", "period moves 1 time 99999 delay 999;"};
+            "period moves 1 time 5 delay 4;period moves 0 time 1;extra 9 time 7;",
+            "period moves 1 time 99999 delay 999;"};
         int[] due = {5, 1, 8, 5 + 63, 9, 100998};
         for (int i = 0; i < texts.length; i++) {
             GameClock clock = Check.begun(texts[i] + "claims;");
@@ -187,8 +189,8 @@ public final class AskEdgeTest {
         int[] due = {1, 1, 1, 2, 2, 3, 59, 59, 100, 100, 100, 101, 101, 102, 5959, 5959, 10000, 10000, 10001, 15959,
             20000, 24639, 24640, 24640};
         String[] written = {"0:00:01", "0:00:01", "0:00:01", "0:00:02", "0:00:02", "0:00:03", "0:00:59", "0:00:59",
-            "0:01:00", "0:01:00", "0:01:00", "0:01:01", "0:01:01", "0:01:02", "0:59:59", "0:59:59", "1:00:00", "1:00:00",
-            "1:00:01", "1:59:59", "2:00:00", "2:46:39", "2:46:40", "2:46:40"};
+            "0:01:00", "0:01:00", "0:01:00", "0:01:01", "0:01:01", "0:01:02", "0:59:59", "0:59:59", "1:00:00",
+            "1:00:00", "1:00:01", "1:59:59", "2:00:00", "2:46:39", "2:46:40", "2:46:40"};
         for (int i = 0; i < ticks.length; i++) {
             GameClock clock = Check.loaded("period moves 0 time " + ticks[i] + ";");
             Check.same("13 white's " + ticks[i], clock.shown(0), due[i]);
@@ -208,13 +210,29 @@ public final class AskEdgeTest {
         Check.same("53 more than ten hours", Check.output(clock, clock.writeClock()), "11:11:36* 0:05:00");
     }
 
+    // what white has left less what black has
+    private static void aheadOrBehind() {
+        Check.same("16 neither", new GameClock().ahead(), 0);
+        Check.same("16 by one", Check.loaded(FIVE + "hand white 1;").ahead(), 1);
+        Check.same("16 behind by one", Check.loaded(FIVE + "hand black 1;").ahead(), -1);
+        Check.same("16 by 9999", Check.loaded(FIVE + "hand white 9999;").ahead(), 9999);
+        Check.same("16 behind by 9999", Check.loaded(FIVE + "hand black 9999;").ahead(), -9999);
+        GameClock clock = Check.begun(FIVE + "claims;");
+        clock.tick(9);
+        Check.same("16 with a fallen flag", clock.ahead(), -5);
+        clock.move();
+        clock.tick(9);
+        Check.same("16 with two", clock.ahead(), 0);
+    }
+
     // the greatest pace, 1 to 9999, with which the side makes all moves up to the end of its period without its flag
     // falling
     private static void paceFrom1To9999() {
         String[] texts = {"period moves 1 time 2;", "period moves 1 time 3;", "period moves 1 time 9999;",
             "period moves 1 time 10000;", "period moves 1 time 10001;", "period moves 1 time 99999;",
-            "period moves 2 time 100;", "period moves 2 time 101;", "period moves 60 time 61;", "period moves 60 time 60;",
-            "period moves 60 time 121;", "period moves 1 time 5 delay 999;", "period moves 1 time 5 bonus 999 back 999;",
+            "period moves 2 time 100;", "period moves 2 time 101;", "period moves 60 time 61;",
+            "period moves 60 time 60;", "period moves 60 time 121;", "period moves 1 time 5 delay 999;",
+            "period moves 1 time 5 bonus 999 back 999;",
             "period moves 2 time 5 bonus 999 back 999;", "period moves 1 time 9000 delay 999;",
             "period moves 1 time 9001 delay 999;", "period moves 1 time 5;period moves 0 time 9;extra 9 time 9999;"};
         int[] due = {1, 2, 9998, 9999, 9999, 9999, 49, 50, 1, -1, 2, 1003, 4, 4, 9998, 9999, 4};
@@ -373,8 +391,8 @@ public final class AskEdgeTest {
         Check.same("20 over", clock.leftIn(0, 9999), 4);
     }
 
-    // NONE if it does not end so (it is over, the state is not 1, flags are claimed, or the flag of the side to move fell
-    // already)
+    // NONE if it does not end so (it is over, the state is not 1, flags are claimed, or the flag of the side to move
+    // fell already)
     private static void overInAndNone() {
         GameClock clock = Check.loaded("period moves 0 time 5 delay 2;extra 9 time 3;session 1;");
         Check.same("21 not begun", clock.overIn(), -1);

@@ -3,8 +3,8 @@ import java.util.function.Consumer;
 import java.util.function.Supplier;
 
 /**
- * Empty, full and wrapped around: the log of 40 moves, the 6 calls that undo() can bring back, the slots, the output and
- * the last period that begins anew; the sentence of the document stands above each test.
+ * Empty, full and wrapped around: the log of 40 moves, the 6 calls that undo() can bring back, the slots, the output
+ * and the last period that begins anew; the sentence of the document stands above each test.
  */
 public final class FullTest {
     private static final Class<?> IOOBE = IndexOutOfBoundsException.class;
@@ -224,6 +224,15 @@ public final class FullTest {
             Check.moveAfter(clock, 5);
         }
         Check.same("30 the latest of 40", clock.slowest(), 0);
+        // by the think, though nothing was lost
+        clock = Check.begun("period moves 0 time 90000 delay 9;");
+        for (int think : new int[] {7, 8, 3, 5}) {
+            Check.moveAfter(clock, think);
+        }
+        Check.same("30 in the delay", clock.slowest(), 2);
+        Check.same("17 in the delay", clock.longest(0), 7);
+        Check.same("18 in the delay", clock.meanThink(1), 6.5);
+        Check.same("31 in the delay", clock.within(1, 5), 1);
     }
 
     // Throws IllegalStateException if there is nothing to undo
@@ -474,7 +483,8 @@ public final class FullTest {
         }
     }
 
-    // Keeps everything .. in a slot, in place of what was there. Makes everything as it was kept in a slot, which keeps it.
+    // Keeps everything .. in a slot, in place of what was there. Makes everything as it was kept in a slot, which
+    // keeps it.
     private static void keepInPlaceOfWhatWasThere() {
         GameClock clock = thinking();
         clock.keep(0);

@@ -173,29 +173,50 @@ public final class ModelTest {
             case "spent":
                 return small(i == 0 ? 2 : model.property(2));
             case "give":
-                return i == 0 ? small(2) : Integer.valueOf(random.nextBoolean() ? ticks(9999) : -ticks(9999));
+                return i == 0 ? small(2) : given(model);
             case "ends":
             case "endsAfter":
-                return ticks(9999);
+            case "tick":
+                return ticks(model);
             case "movesIn":
-                return i == 2 && random.nextBoolean() ? Integer.valueOf(1 + random.nextInt(9999)) : ticks(9999);
+                return i == 2 && random.nextBoolean() ? Integer.valueOf(1 + random.nextInt(9999)) : ticks(model);
             case "aheadAfter":
-                return i == 2 ? ticks(400) : ticks(9999);
+                return i == 2 ? ticks(400) : ticks(model);
             case "paceFor":
                 return i == 0 ? small(2) : ticks(200);
             case "needs":
-                return i == 0 ? small(2) : i == 1 ? ticks(200) : ticks(9999);
+                return i == 0 ? small(2) : i == 1 ? ticks(200) : ticks(model);
             case "lasts":
             case "leftIn":
             case "within":
-                return i == 0 ? small(2) : ticks(9999);
-            case "tick":
-                return ticks(9999);
+                return i == 0 ? small(2) : ticks(model);
             case "outputByte":
                 return random.nextInt(40) - 1;
             default:
                 return small(2);
         }
+    }
+
+    /** Ticks as below, now and then so many that an edge of the game as it is comes near. */
+    private Integer ticks(Model model) {
+        return random.nextInt(5) == 0 ? edge(model) : ticks(9999);
+    }
+
+    /** Up to a flag, to the end of a delay or of a session, the think, in the moves of a period; or one beside it. */
+    private int edge(Model model) {
+        int side = random.nextInt(2);
+        int moves = Math.max(1, model.side(side, 11));
+        int[] edges = {model.flagIn(side), model.side(side, 0), model.side(side, 0) / moves, model.delayLeft(side),
+            model.sealIn(), model.side(side, 6), model.period(model.side(side, 2), 3)};
+        return edges[random.nextInt(edges.length)] + random.nextInt(3) - 1;
+    }
+
+    /** Ticks to give, or to take down to about 1. */
+    private Integer given(Model model) {
+        if (random.nextInt(4) == 0) {
+            return random.nextInt(3) - model.side(random.nextInt(2), 0);
+        }
+        return random.nextBoolean() ? ticks(9999) : -ticks(9999);
     }
 
     /** 0 to most - 1, seldom a number beside them. */
@@ -227,9 +248,10 @@ public final class ModelTest {
 
     private String text() {
         StringBuilder text = new StringBuilder();
-        int periods = 1 + random.nextInt(4);
+        int periods = 1 + random.nextInt(5);
         for (int i = 0; i < periods; i++) {
-            int moves = i == periods - 1 && random.nextBoolean() ? 0 : 1 + random.nextInt(5);
+            int most = random.nextInt(12) == 0 ? 60 : 5;
+            int moves = i == periods - 1 && random.nextBoolean() ? 0 : 1 + random.nextInt(most);
             text.append("period moves ").append(moves).append(" time ").append(time());
             option(text, "bonus");
             option(text, "delay");
@@ -241,7 +263,8 @@ public final class ModelTest {
         }
         String soFar = text.toString();
         if (random.nextBoolean()) {
-            text.append("extra ").append(1 + random.nextInt(3)).append(" time ").append(time() / 3 + 1).append("; ");
+            text.append("extra ").append(1 + random.nextInt(random.nextInt(3) == 0 ? 9 : 3))
+                    .append(" time ").append(time() / 3 + 1).append("; ");
         }
         if (random.nextBoolean()) {
             text.append("session ").append(1 + random.nextInt(200)).append(';');

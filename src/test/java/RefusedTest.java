@@ -9,8 +9,8 @@ import java.util.function.Consumer;
 import java.util.function.Supplier;
 
 /**
- * The section EXCEPTIONS: each exception of each throws clause in each state of a game, which of several is thrown, that
- * a call that throws changes nothing, and that a value at the two ends of its range is taken.
+ * The section EXCEPTIONS: each exception of each throws clause in each state of a game, which of several is thrown,
+ * that a call that throws changes nothing, and that a value at the two ends of its range is taken.
  */
 public final class RefusedTest {
     private static final Class<?> IAE = IllegalArgumentException.class;
@@ -71,7 +71,7 @@ public final class RefusedTest {
         return clock;
     }
 
-    /** One move each, one slot kept, and three calls to undo. */
+    /** One move of white, one slot kept, and three calls to undo. */
     private static GameClock begun() {
         GameClock clock = Check.begun(TEXT);
         clock.keep(1);

@@ -75,7 +75,8 @@ public final class RuleEdgeTest {
     // At first each side is in period 0, has left the time of that (white or black more, by hand), and no moves. .. the
     // side to move, at first white. THE STATE is 0 not begun
     private static void atFirst() {
-        GameClock clock = Check.loaded("period moves 60 time 99999;period moves 1 time 7;extra 9 time 3;hand white 9999;");
+        GameClock clock = Check.loaded("period moves 60 time 99999;period moves 1 time 7;extra 9 time 3;"
+                + "hand white 9999;");
         side("white", clock, 0, 109998, 0, 0, 0, 9, 0, 0, 0, 0, 0, 0, 60);
         side("black", clock, 1, 99999, 0, 0, 0, 9, 0, 0, 0, 0, 0, 0, 60);
         Check.same("7 the side to move", clock.property(1), 0);
@@ -482,8 +483,8 @@ public final class RuleEdgeTest {
         return clock;
     }
 
-    // A side claims that the flag of the other one fell. If its own flag fell, too, it is a draw; otherwise it won, or it
-    // is a draw, if it is bare. The game is over.
+    // A side claims that the flag of the other one fell. If its own flag fell, too, it is a draw; otherwise it won, or
+    // it is a draw, if it is bare. The game is over.
     private static void claimOfFlags() {
         for (int side = 0; side < 2; side++) {
             boolean white = side == 1;
