@@ -1330,6 +1330,8 @@ public final class GameClock {
         // a move takes a tick at least, but each side's first one none if its think is long enough already:
         // behind swap() both sides can have a think
         static final int MOST_MOVES_IN_TICKS = MOST_TICKS + SIDES;
+        // what the moves of a trial take at the slowest pace, so that their number alone ends it
+        static final int ENOUGH_TICKS = MOST_TRIAL_MOVES * MOST_TICKS;
         static final int MOST_MORE = 99999;
         // enough halvings for each search here
         static final int HALVINGS = 20;
@@ -1399,7 +1401,7 @@ public final class GameClock {
 
         /** Both sides move at their paces until a flag falls or so many moves are made. */
         void play(State from, int whitePace, int blackPace, int moves) {
-            begin(from, Integer.MAX_VALUE);
+            begin(from, ENOUGH_TICKS);
             for (int i = 0; i < moves && canMove(from.rules, whitePace, blackPace); i++) {
                 finishMove(from.rules);
             }

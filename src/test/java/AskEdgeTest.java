@@ -482,6 +482,11 @@ public final class AskEdgeTest {
         Check.same("24 black falls", clock.ends(9999, 9999), 0);
         clock.give(1, 1);
         Check.same("25 white's second", clock.endsAfter(9999, 9999), 2);
+        clock = Check.begun("period moves 1 time 99999;");
+        Check.same("25 400 moves at 9999", clock.endsAfter(9999, 9999), 400);
+        Check.same("24 400 moves at 9999", clock.ends(9999, 9999), -1);
+        Check.same("34 399 moves at 9999", clock.aheadAfter(9999, 9999, 399), 90000);
+        Check.same("34 400 moves at 9999", clock.aheadAfter(9999, 9999, 400), 0);
     }
 
     // (counted from the think as it is; at once, if that is not less)

@@ -14,7 +14,7 @@ public final class LanguageTest {
             "\\bgetMessage\\b:6", "\\bprintStackTrace\\b:6", "\\bhashCode\\b:6", "\\btoString\\b:6",
             "\\binstanceof\\b:6", "\\bExact\\b:4", "Exact\\(:4", "String\\.(format|valueOf|join):4", "\\bMap\\b:3",
             "\\bSystem\\.(?!arraycopy):13", "\\bRandom\\b:13", "\\bThread\\b:13", "\\bjava\\.io\\b:13", "\" \\+ :10",
-            " \\+ \":10", "^package\\b:1", "\\bstatic \\{:5");
+            " \\+ \":10", "^package\\b:1", "\\bstatic \\{:5", "_VALUE\\b:4");
 
     private LanguageTest() {
     }
