@@ -328,6 +328,13 @@ public final class AskTest {
         Check.same("19 thirds, delays too", clock.share(0), 1.0f / 3.0f);
         clock.tick(7);
         Check.same("19 with a fallen flag", clock.share(0), 8.0f / 10.0f);
+        clock = Check.begun("period moves 0 time 50; session 4;");
+        clock.tick(4);
+        clock.seal();
+        clock.open();
+        Check.same("19 by the time, not by that of the session", clock.share(0), 1.0f);
+        clock.tick(4);
+        Check.same("19 by the time, not by that of the session", clock.share(0), 4.0f / 8.0f);
         Check.refuses("19 side -1", IOOBE, AskTest::played, c -> c.share(-1));
         Check.refuses("19 side 2", IOOBE, AskTest::played, c -> c.share(2));
     }

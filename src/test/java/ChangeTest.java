@@ -618,12 +618,32 @@ public final class ChangeTest {
         Check.refuses("50 slot -1", IOOBE, ChangeTest::running, c -> c.restore(-1));
         Check.refuses("50 slot 2", IOOBE, ChangeTest::running, c -> c.restore(2));
         Check.refuses("50 nothing kept", ISE, ChangeTest::running, c -> c.restore(0));
+        timesInSlots();
         Supplier<GameClock> kept = () -> {
             GameClock made = running();
             made.keep(0);
             return made;
         };
         Check.refuses("50 nothing kept in the other", ISE, kept, c -> c.restore(1));
+    }
+
+    /** Behind an opened game the time and that of the session are not the same. */
+    private static void timesInSlots() {
+        GameClock clock = adjourned();
+        clock.open();
+        clock.tick(5);
+        Check.same("49 the time", clock.keep(0), 67);
+        clock.tick(9);
+        Check.same("50 the time", clock.restore(0), 67);
+        Check.same("50 the time", clock.property(7), 67);
+        Check.same("50 the time of the session", clock.property(6), 5);
+        clock.undo();
+        Check.same("51 the time", clock.property(7), 76);
+        Check.same("51 the time of the session", clock.property(6), 14);
+        clock.undo();
+        clock.undo();
+        clock.undo();
+        Check.same("51 the time of the session ahead of open()", clock.property(6), 62);
     }
 
     private static void logsInSlots() {

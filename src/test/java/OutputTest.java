@@ -101,6 +101,11 @@ public final class OutputTest {
         game = Check.begun("period moves 1 time 10; period moves 0 time 5; claims;");
         Check.moveAfter(game, 12);
         log("fallen", game, "w12");
+        game = Check.begun("period moves 0 time 5; extra 1 time 40;");
+        game.tick(5);
+        game.give(0, 1);
+        game.move();
+        log("gains of -1", game, "w5+-1");
     }
 
     private static void promise54Limits() {

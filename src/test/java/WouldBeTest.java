@@ -308,6 +308,8 @@ public final class WouldBeTest {
         Check.same("26 the think so far", clock.movesIn(10, 20, 2), 0);
         Check.same("26 at once, and no more", clock.movesIn(7, 20, 1), 1);
         Check.same("26 at once", clock.movesIn(3, 20, 20), 2);
+        Check.same("26 at once, one tick too few for the next", clock.movesIn(3, 20, 19), 1);
+        Check.same("26 at once, and one for each tick", clock.movesIn(1, 1, 30), 31);
         clock = Check.begun("period moves 0 time 10 delay 1;");
         // each move of 3 ticks costs 2; white's fifth move falls at its last tick
         Check.same("26 until the flag falls", clock.movesIn(3, 1, 9999), 8);
