@@ -10,7 +10,7 @@ import java.util.regex.Matcher;
 import java.util.regex.Pattern;
 import javax.tools.ToolProvider;
 
-/** README.md: its example compiles and answers what stands there, and its commands run; from the project's directory. */
+/** README.md: its example answers what stands there, and its commands run; from the project's directory. */
 public final class ReadmeTest {
     private static final Path PROGRAM = Path.of("src/main/java/GameClock.java");
 
